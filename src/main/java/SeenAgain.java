@@ -537,7 +537,7 @@ public final class SeenAgain {
     private static final class Tape {
         static final int MOST_BYTES = 140;
         static final int MISPLACED = 1, WRONG_NUMBER = 2, TOO_MANY = 3;
-        /** Besides these a TOKEN that is a letter or a SIGN is told by its own byte. */
+        /** Besides these a TOKEN, a letter or a SIGN, is told by its own byte. */
         static final int END = -1, NO_TOKEN = -2, NUMBER = -3;
 
         final int[] letters = new int[MOST_BYTES];
@@ -550,24 +550,24 @@ public final class SeenAgain {
         private int number;
 
         boolean readInto(House told) {
-            told.clear();
+            told.forgetTold();
             behind = 0;
             step();
             return readLaw(told) && readWalls(told) && readPeople(told) && readVisitors(told) && take(END);
         }
 
         private boolean readLaw(House told) {
-            if (!take('h') || !takeNumber(2, MOST_ROOMS)) {
+            if (!take('h') || !numberStands(2, MOST_ROOMS)) {
                 return false;
             }
             told.rooms = number;
             step();
-            if (!take(',') || !takeNumber(1, 5)) {
+            if (!take(',') || !numberStands(1, 5)) {
                 return false;
             }
             told.seats = number;
             step();
-            if (!take(',') || !takeNumber(0, 20)) {
+            if (!take(',') || !numberStands(0, 20)) {
                 return false;
             }
             told.fee = number;
@@ -581,12 +581,12 @@ public final class SeenAgain {
                     return faulty(TOO_MANY);
                 }
                 step();
-                if (!takeNumber(0, told.rooms - 1)) {
+                if (!numberStands(0, told.rooms - 1)) {
                     return false;
                 }
                 int a = number;
                 step();
-                if (!take(',') || !takeNumber(0, told.rooms - 1)) {
+                if (!take(',') || !numberStands(0, told.rooms - 1)) {
                     return false;
                 }
                 int b = number;
@@ -609,7 +609,7 @@ public final class SeenAgain {
                 }
                 step();
                 for (int minute = 0; minute < MINUTES; minute++) {
-                    if (minute > 0 && !take(',') || !takeNumber(0, told.rooms - 1)) {
+                    if (minute > 0 && !take(',') || !numberStands(0, told.rooms - 1)) {
                         return false;
                     }
                     told.stays[MINUTES * i + minute] = number;
@@ -630,7 +630,7 @@ public final class SeenAgain {
                 }
                 told.guests[i] = newVisitor(token, i);
                 step();
-                if (!takeNumber(0, 99)) {
+                if (!numberStands(0, 99)) {
                     return false;
                 }
                 told.purses[i] = number;
@@ -666,8 +666,8 @@ public final class SeenAgain {
             return true;
         }
 
-        /** Whether a NUMBER as told stands here; it stays at hand, for what else the caller asks of it. */
-        private boolean takeNumber(int least, int most) {
+        /** Whether a NUMBER as told stands here; it stays at hand, for there may be more to ask of it. */
+        private boolean numberStands(int least, int most) {
             if (token != NUMBER) {
                 return faulty(MISPLACED);
             }
@@ -694,9 +694,9 @@ public final class SeenAgain {
                 readNumber();
                 return;
             }
+            // A byte that is no TOKEN stands nowhere either, so it may pass for one.
             behind = at + 1;
-            boolean isOne = letter >= 'a' && letter <= 'z' || letter == ',' || letter == ';';
-            token = isOne ? letter : NO_TOKEN;
+            token = letter;
         }
 
         private void readNumber() {
@@ -745,19 +745,12 @@ public final class SeenAgain {
             }
         }
 
-        void clear() {
-            rooms = 0;
-            seats = 0;
-            fee = 0;
+        /** Ahead of a law. In a draft nothing is ever done: what was told is all there is to forget. */
+        void forgetTold() {
             walls = 0;
             people = 0;
             visitors = 0;
-            held = 0;
-            curtains = 0;
-            written = 0;
             Arrays.fill(windows, 0);
-            Arrays.fill(drawn, 0);
-            Arrays.fill(holders, 0);
         }
 
         void becomes(House other) {

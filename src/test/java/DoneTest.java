@@ -51,6 +51,9 @@ public final class DoneTest {
         Check.due("9: the oldest are forgotten", x.undo(), Check.STATE);
         Check.due("9: three stay", x.count(6), 3);
         Check.due("9: these", x.seat(0, 0, 0), 1 + 16);
+        for (int minute = 1; minute < 8; minute++) {
+            Check.due("9: no others", x.seat(0, minute, 0), 31);
+        }
         Check.due("9: another ACT", x.write(7), 1);
         Check.due("9: undone", x.undo(), 0);
     }
@@ -124,6 +127,10 @@ public final class DoneTest {
         Check.due("12: from the other side", x.curtain(1, 0, 4), Check.STATE);
         Check.due("12: in all MINUTES", x.curtain(2, 1, 7), 2);
         Check.due("12: count(6)", x.count(6), 2);
+        Check.due("12: another one then", x.curtain(2, 1, 4), 3);
+        Check.due("12: VIEW of 1", x.seat(1, 4, 0), 2);
+        x.undo();
+        Check.due("12: the one stays drawn", x.seat(1, 4, 0), 6);
         Check.due("12: no window", x.curtain(0, 2, 0), Check.BAD);
         Check.due("12: alike", x.curtain(1, 1, 0), Check.BAD);
         Check.due("12: room 3", x.curtain(1, 3, 0), Check.BAD);

@@ -213,8 +213,8 @@ public final class ForetoldTest {
         x.back(1, 3, 0);
         Check.due("24: the PURSE is as much", x.visitor(1, 0), 3);
         Check.due("24: the PURSE is as much", x.nextSeat(1, 0, 0), 3);
-        x.buy(1, 3, 1);
-        x.back(1, 3, 1);
+        String all = "r0,0,0,0,0,0,0,0;";
+        Check.due("24: all four", Check.houseOf("h2,1,0;" + all + all + all + all + "t9;").nextSeat(0, 0, 255), 0);
         x = Check.houseOf("h2,2,4;t3;");
         x.write(6);
         Check.due("24: only what he can pay", x.nextSeat(0, 0, 255), 36);
@@ -247,7 +247,7 @@ public final class ForetoldTest {
     }
 
     private static void followedByPurse() {
-        SeenAgain x = Check.houseOf("h3,2,5;g0,1;r0,0,0,0,0,0,0,0;t14;t99;");
+        SeenAgain x = Check.houseOf("h3,2,5;g0,1;r0,0,0,0,0,0,0,0;t10;t99;");
         Check.due("25: for no more than the PURSE", x.followed(0, 0, 0), 2);
         x.buy(1, 0, 0);
         Check.due("25: the cheapest that sees", x.followed(0, 0, 0), 2);

@@ -1,3 +1,5 @@
+import java.lang.reflect.Method;
+import java.util.Arrays;
 import java.util.Random;
 
 /** Runs of 512 random calls (always the same ones), each answer beside that of the Model. */
@@ -6,77 +8,114 @@ public final class ModelTest {
     private static final int CALLS = 512;
     private static final int[] FAR = {Integer.MIN_VALUE, -1000001, -2, 41, 256, 65536, Integer.MAX_VALUE};
 
+    /**
+     * Each call by its name, and what its arguments are drawn from: a VISITOR, a set of them, a PERSON, a ROOM, a
+     * MINUTE, a set of them, or so many numbers.
+     */
+    private static final String[] CALLS_OF_FACE = {
+        "row 8 3 12", "set 3 11 300", "copy 3 4 3 4 11", "drop 8", "feed 256", "house", "fault", "undo",
+        "buy v r m", "back v r m", "curtain r r m", "write m", "visitor v 3", "seat r m 3", "price v r m",
+        "looked V m", "seen V p m", "known V p", "canBe V p r m", "suspects V r M", "settled m",
+        "cheapest v m 2", "nextSeat v r M", "followed v p 2", "crowd v m", "told v p m", "believed p m",
+        "account V p 3 3", "met p p", "soldOut 6", "haunted", "image 2", "restore 2",
+        "kind v", "as v 6", "ask v 2", "trace 8", "count 9", "status"};
+    private static final int ROW = 0, SET = 1, DROP = 3, FEED = 4, HOUSE = 5, BUY = 8, SOLD_OUT = 29, RESTORE = 32;
+
+    private static final String[][] WORDS = new String[CALLS_OF_FACE.length][];
+    private static final Method[] OF_PROGRAM = new Method[CALLS_OF_FACE.length];
+    private static final Method[] OF_MODEL = new Method[CALLS_OF_FACE.length];
+
     private final Random chance;
     private final SeenAgain x = new SeenAgain();
     private final Model model = new Model();
     private final StringBuilder log = new StringBuilder();
     private int calls;
+    private boolean wrong;
 
     private ModelTest(long seed) {
         chance = new Random(seed);
     }
 
-    public static void main(String[] args) {
+    public static void main(String[] args) throws ReflectiveOperationException {
+        for (int i = 0; i < CALLS_OF_FACE.length; i++) {
+            WORDS[i] = CALLS_OF_FACE[i].split(" ");
+            Class<?>[] ints = new Class<?>[WORDS[i].length - 1];
+            Arrays.fill(ints, int.class);
+            OF_PROGRAM[i] = SeenAgain.class.getMethod(WORDS[i][0], ints);
+            OF_MODEL[i] = Model.class.getDeclaredMethod(WORDS[i][0], ints);
+        }
         for (int seed = 0; seed < RUNS; seed++) {
             ModelTest run = new ModelTest(seed);
-            String wrong = run.run();
-            Check.due("run " + seed + wrong, wrong.isEmpty() ? 0 : 1, 0);
-            if (!wrong.isEmpty()) {
-                break;
-            }
+            run.allCalls();
+            Check.due("run " + seed + (run.wrong ? run.log : ""), run.wrong ? 1 : 0, 0);
         }
         Check.end();
     }
 
-    private String run() {
-        int boldness = chance.nextInt(3);
-        while (calls < CALLS) {
-            if (calls == 0 && chance.nextInt(8) > 0 || chance.nextInt(90) == 0) {
-                for (char letter : text().toCharArray()) {
-                    if (calls < CALLS && !compare(4, letter, 0, 0, 0, 0)) {
-                        return log.toString();
-                    }
-                }
-                if (calls < CALLS && !compare(5, 0, 0, 0, 0, 0)) {
-                    return log.toString();
-                }
-                continue;
-            }
-            int call = boldness == 0 && chance.nextInt(2) == 0 ? 8 : chance.nextInt(40);
-            if ((call == 5 || call == 4) && chance.nextInt(8) > 0) {
-                continue;
-            }
-            if (!oneCall(call)) {
-                return log.toString();
+    private void allCalls() throws ReflectiveOperationException {
+        boolean buysOften = chance.nextInt(3) == 0;
+        if (chance.nextInt(8) > 0) {
+            tell();
+        }
+        while (calls < CALLS && !wrong) {
+            int call = buysOften && chance.nextBoolean() ? BUY : chance.nextInt(CALLS_OF_FACE.length);
+            boolean rare = call == DROP || call == FEED || call == HOUSE || call == RESTORE;
+            if (chance.nextInt(160) == 0) {
+                tell();
+            } else if (!rare || chance.nextInt(8) == 0) {
+                compare(call, arguments(call));
             }
         }
-        return "";
     }
 
-    private boolean oneCall(int call) {
-        if (call == 0) {
-            return compare(call, small(8), small(3), chance.nextInt(4) == 0 ? small(41) : 8 + chance.nextInt(3), 0, 0);
+    private void tell() throws ReflectiveOperationException {
+        for (char letter : text().toCharArray()) {
+            compare(FEED, (int) letter);
         }
-        if (call == 1) {
-            return compare(call, small(3), small(11), chance.nextInt(9) == 0 ? chance.nextInt() : small(6) - 1, 0, 0);
-        }
-        if (call == 2) {
-            return compare(call, small(3), small(4), small(3), small(4), small(11));
-        }
-        return compare(call, argument(call, 0), argument(call, 1), argument(call, 2), argument(call, 3), 0);
+        compare(HOUSE);
     }
 
-    /** Ends of the arguments, by call: what is drawn lies in them mostly, at times one beyond. */
-    private static final int[][] ENDS = {
-        {}, {}, {}, {8}, {256}, {}, {}, {},
-        {4, 6, 8}, {4, 6, 8}, {6, 6, 8}, {8}, {4, 3}, {6, 8, 3}, {4, 6, 8},
-        {16, 8}, {16, 4, 8}, {16, 4}, {16, 4, 6, 8}, {16, 6, 256}, {8}, {4, 8, 2}, {4, 6, 256}, {4, 4, 2},
-        {4, 8}, {4, 4, 8}, {4, 8}, {16, 4, 3, 3}, {4, 4}, {6}, {}, {2}, {2},
-        {4}, {4, 6}, {4, 2}, {8}, {9}, {}, {}
-    };
+    private void compare(int call, Object... arguments) throws ReflectiveOperationException {
+        if (wrong || calls == CALLS) {
+            return;
+        }
+        calls++;
+        int got = (int) OF_PROGRAM[call].invoke(x, arguments);
+        int want = (int) OF_MODEL[call].invoke(model, arguments);
+        log.append("\n  ").append(WORDS[call][0]).append(Arrays.toString(arguments));
+        log.append(' ').append(got).append(", Model ").append(want);
+        wrong = got != want;
+    }
 
-    private int argument(int call, int i) {
-        return i < ENDS[call].length ? small(ENDS[call][i]) : 0;
+    private Object[] arguments(int call) {
+        Object[] all = new Object[WORDS[call].length - 1];
+        for (int i = 0; i < all.length; i++) {
+            all[i] = small(end(WORDS[call][i + 1]));
+        }
+        if (call == ROW && chance.nextInt(3) > 0) {
+            all[2] = 8 + chance.nextInt(3);
+        }
+        if (call == SET) {
+            all[2] = chance.nextInt(9) == 0 ? chance.nextInt() : small(6) - 1;
+        }
+        if (call == SOLD_OUT) {
+            all[0] = (int) all[0] - 1;
+        }
+        return all;
+    }
+
+    private int end(String word) {
+        Model.Home home = model.home;
+        int visitors = home == null ? 4 : home.sorts.length();
+        switch (word.charAt(0)) {
+            case 'v': return Math.max(1, visitors);
+            case 'V': return 1 << visitors;
+            case 'p': return home == null ? 4 : Math.max(1, home.people.size());
+            case 'r': return home == null ? 6 : home.rooms;
+            case 'm': return 8;
+            case 'M': return 256;
+            default: return Integer.parseInt(word);
+        }
     }
 
     private int small(int end) {
@@ -84,7 +123,7 @@ public final class ModelTest {
         if (lot == 0) {
             return FAR[chance.nextInt(FAR.length)];
         }
-        return lot < 4 ? lot == 1 ? end : -lot + 1 : chance.nextInt(end);
+        return lot == 1 ? end : lot == 2 ? -1 : chance.nextInt(end);
     }
 
     private String text() {
@@ -127,103 +166,6 @@ public final class ModelTest {
             default:
                 t.append(new String[] {"t5;", "g0,1;", "r0,0,0,0,0,0,0,0;", "123"}[chance.nextInt(4)]);
                 break;
-        }
-    }
-
-    private boolean compare(int call, int a, int b, int c, int d, int e) {
-        calls++;
-        int got = ofProgram(call, a, b, c, d, e);
-        int want = ofModel(call, a, b, c, d, e);
-        log.append("\n  call ").append(call).append(" (").append(a).append(", ").append(b).append(", ").append(c)
-            .append(", ").append(d).append(", ").append(e).append(") ").append(got).append(", Model ").append(want);
-        return got == want;
-    }
-
-    private int ofProgram(int call, int a, int b, int c, int d, int e) {
-        switch (call) {
-            case 0: return x.row(a, b, c);
-            case 1: return x.set(a, b, c);
-            case 2: return x.copy(a, b, c, d, e);
-            case 3: return x.drop(a);
-            case 4: return x.feed(a);
-            case 5: return x.house();
-            case 6: return x.fault();
-            case 7: return x.undo();
-            case 8: return x.buy(a, b, c);
-            case 9: return x.back(a, b, c);
-            case 10: return x.curtain(a, b, c);
-            case 11: return x.write(a);
-            case 12: return x.visitor(a, b);
-            case 13: return x.seat(a, b, c);
-            case 14: return x.price(a, b, c);
-            case 15: return x.looked(a, b);
-            case 16: return x.seen(a, b, c);
-            case 17: return x.known(a, b);
-            case 18: return x.canBe(a, b, c, d);
-            case 19: return x.suspects(a, b, c);
-            case 20: return x.settled(a);
-            case 21: return x.cheapest(a, b, c);
-            case 22: return x.nextSeat(a, b, c);
-            case 23: return x.followed(a, b, c);
-            case 24: return x.crowd(a, b);
-            case 25: return x.told(a, b, c);
-            case 26: return x.believed(a, b);
-            case 27: return x.account(a, b, c, d);
-            case 28: return x.met(a, b);
-            case 29: return x.soldOut(a - 1);
-            case 30: return x.haunted();
-            case 31: return x.image(a);
-            case 32: return x.restore(a);
-            case 33: return x.kind(a);
-            case 34: return x.as(a, b);
-            case 35: return x.ask(a, b);
-            case 36: return x.trace(a);
-            case 37: return x.count(a);
-            default: return x.status();
-        }
-    }
-
-    private int ofModel(int call, int a, int b, int c, int d, int e) {
-        switch (call) {
-            case 0: return model.row(a, b, c);
-            case 1: return model.set(a, b, c);
-            case 2: return model.copy(a, b, c, d, e);
-            case 3: return model.drop(a);
-            case 4: return model.feed(a);
-            case 5: return model.house();
-            case 6: return model.fault();
-            case 7: return model.undo();
-            case 8: return model.buy(a, b, c);
-            case 9: return model.back(a, b, c);
-            case 10: return model.curtain(a, b, c);
-            case 11: return model.write(a);
-            case 12: return model.visitor(a, b);
-            case 13: return model.seat(a, b, c);
-            case 14: return model.price(a, b, c);
-            case 15: return model.looked(a, b);
-            case 16: return model.seen(a, b, c);
-            case 17: return model.known(a, b);
-            case 18: return model.canBe(a, b, c, d);
-            case 19: return model.suspects(a, b, c);
-            case 20: return model.settled(a);
-            case 21: return model.cheapest(a, b, c);
-            case 22: return model.nextSeat(a, b, c);
-            case 23: return model.followed(a, b, c);
-            case 24: return model.crowd(a, b);
-            case 25: return model.told(a, b, c);
-            case 26: return model.believed(a, b);
-            case 27: return model.account(a, b, c, d);
-            case 28: return model.met(a, b);
-            case 29: return model.soldOut(a - 1);
-            case 30: return model.haunted();
-            case 31: return model.image(a);
-            case 32: return model.restore(a);
-            case 33: return model.kind(a);
-            case 34: return model.as(a, b);
-            case 35: return model.ask(a, b);
-            case 36: return model.trace(a);
-            case 37: return model.count(a);
-            default: return model.status();
         }
     }
 }

@@ -100,6 +100,7 @@ public final class ReadingTest {
         faulty(law + "r0,1,2,0,1,2,0,1,", 23, 1);
         faulty(law + "r0,1,2,0,1,2,0,3;", 22, 2);
         faulty(law + "r3,", 8, 2);
+        faulty(law + "r0,1,2,0,1,2,0,1t5;", 23, 1);
         faulty(law + "r,", 8, 1);
         faulty(law + one + "g0,1;", 24, 1);
     }
@@ -118,6 +119,7 @@ public final class ReadingTest {
         faulty(law + "a0;d99;l07;t1;x", 21, 1);
         faulty(law + "t100;", 8, 1);
         faulty(law + "t;", 8, 1);
+        faulty(law + "t", 8, 1);
         faulty(law + "t5", 9, 1);
         faulty(law + "t5,", 9, 1);
         faulty(law + "t5;" + person, 10, 1);
@@ -136,6 +138,7 @@ public final class ReadingTest {
         faulty("h2,1,0;\n", 7, 1);
         faulty("h2,1,0;" + (char) 255, 7, 1);
         faulty("h2,1,0;" + (char) 0, 7, 1);
+        faulty("h2,1,0;123", 7, 1);
         faulty("h-2,1,0;", 1, 1);
         faulty("h2,1,0;g0,12345678901234567890;", 10, 1);
     }

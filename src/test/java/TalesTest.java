@@ -28,6 +28,9 @@ public final class TalesTest {
         x.curtain(1, 2, 0);
         Check.due("26: a curtain", x.crowd(2, 0), 8);
         Check.due("26: a curtain", x.crowd(1, 0), 0);
+        x.buy(2, 0, 7);
+        x.buy(1, 1, 7);
+        Check.due("26: ROOM 0", x.crowd(1, 7), 4);
         Check.due("26: visitor 4", x.crowd(4, 0), Check.BAD);
         Check.due("26: visitor -1", x.crowd(-1, 0), Check.BAD);
         Check.due("26: minute 8", x.crowd(0, 8), Check.BAD);
@@ -60,6 +63,8 @@ public final class TalesTest {
         Check.due("28: a liar alone", x.believed(0, 3), 3);
         x.buy(1, 2, 3);
         Check.due("28: of several the least", x.believed(0, 3), 2);
+        x.buy(1, 0, 0);
+        Check.due("28: ROOM 0", x.believed(0, 0), 0);
         Check.due("28: person 2", x.believed(2, 0), Check.BAD);
         Check.due("28: person -1", x.believed(-1, 0), Check.BAD);
         Check.due("28: minute 8", x.believed(0, 8), Check.BAD);
@@ -97,6 +102,8 @@ public final class TalesTest {
         Check.due("29: beyond the end", x.account(6, 0, 0, 2), Check.PLACE);
         Check.due("29: ahead of the row", x.account(6, 0, 0, -1), Check.PLACE);
         Check.due("29: far", x.account(6, 0, 0, Integer.MAX_VALUE), Check.PLACE);
+        x.set(0, 0, -1);
+        Check.due("29: no ROOM is told", x.account(6, 0, 0, 0), 16);
         x.set(0, 0, 4);
         Check.due("29: no ROOM", x.account(6, 0, 0, 0), Check.BAD);
         Check.due("29: PLACE ahead of that", x.account(6, 0, 0, 2), Check.PLACE);
@@ -136,6 +143,10 @@ public final class TalesTest {
         Check.due("31: no more", x.soldOut(3), Check.NONE);
         Check.due("31: far", x.soldOut(Integer.MAX_VALUE), Check.NONE);
         Check.due("31: i -2", x.soldOut(-2), Check.BAD);
+        x.buy(0, 2, 0);
+        x.buy(1, 2, 0);
+        Check.due("31: MINUTE 0", x.soldOut(0), 2);
+        x.back(1, 2, 0);
         x.back(1, 0, 2);
         Check.due("31: one is left", x.soldOut(-1), 2);
     }
@@ -150,6 +161,9 @@ public final class TalesTest {
         Check.due("32: of several the first", x.haunted(), 9);
         x.buy(1, 0, 2);
         Check.due("32: most", x.haunted(), 12);
+        x.buy(0, 3, 0);
+        x.buy(1, 3, 0);
+        Check.due("32: MINUTE 0", x.haunted(), 3);
     }
 
     private static void image() {
