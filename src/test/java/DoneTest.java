@@ -14,28 +14,25 @@ public final class DoneTest {
         Check.end();
     }
 
+    /** ACTS of each sort, behind them calls that are refused: undone one by one, all is as it was ahead of each. */
     private static void undo() {
-        SeenAgain x = Check.houseOf(Check.MANOR);
-        String[] before = new String[6];
-        before[0] = Check.portrait(x);
-        x.buy(2, 1, 0);
-        before[1] = Check.portrait(x);
-        x.write(0);
-        before[2] = Check.portrait(x);
-        x.buy(1, 1, 0);
-        before[3] = Check.portrait(x);
-        x.curtain(2, 1, 0);
-        before[4] = Check.portrait(x);
-        x.back(2, 1, 0);
-        before[5] = Check.portrait(x);
-        x.buy(0, 0, 0);
-        x.buy(0, 0, 0);
-        x.write(0);
-        for (int left = 5; left >= 0; left--) {
-            Check.due("9: undo()", x.undo(), left);
-            Check.due("9: as ahead of ACT " + left, Check.portrait(x).equals(before[left]) ? 1 : 0, 1);
+        Run run = new Run().told(Check.MANOR).then(x -> x.image(0));
+        Check.stays("9: none", run, SeenAgain::undo, Check.STATE);
+        Run[] ahead = new Run[6];
+        Run.Call[] acts = {x -> x.buy(2, 1, 0), x -> x.write(0), x -> x.buy(1, 1, 0), x -> x.curtain(2, 1, 0),
+            x -> x.back(2, 1, 0), x -> x.buy(0, 0, 0)};
+        for (int i = 0; i < acts.length; i++) {
+            ahead[i] = run;
+            run = run.then(acts[i]);
+            Check.due("9: an ACT more", run.made().count(7), i + 1);
         }
-        Check.due("9: none", x.undo(), Check.STATE);
+        run = run.then(x -> x.buy(0, 0, 0), x -> x.write(0), x -> x.curtain(1, 2, 0), x -> x.back(2, 1, 0));
+        for (int left = 5; left >= 0; left--) {
+            run = run.then(SeenAgain::undo);
+            Check.due("9: undo()", run.last(), left);
+            Check.due("9: as ahead of ACT " + left, run.portrait(), ahead[left].portrait());
+        }
+        Check.stays("9: none any more", run, SeenAgain::undo, Check.STATE);
         Check.due("9: no HOUSE", new SeenAgain().undo(), Check.STATE);
     }
 

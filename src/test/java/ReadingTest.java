@@ -157,18 +157,13 @@ public final class ReadingTest {
     }
 
     private static void faultsChangeNothing() {
-        SeenAgain x = Check.houseOf(Check.MANOR);
-        x.row(0, 0, 3);
-        x.buy(0, 0, 0);
-        x.curtain(0, 1, 0);
-        x.write(2);
-        x.ask(2, 0);
-        x.image(1);
-        Check.read(x, "");
-        String before = Check.portrait(x);
-        Check.due("7: a FAULT", Check.read(x, "h2,3,4;g0,1;r1,1,1,1,1,1,1,1;l5;1"), -1000132);
-        Check.due("7: all but the tape stays", Check.portrait(x).equals(before) ? 1 : 0, 1);
-        Check.due("7: ACTS stay", x.undo(), 2);
+        Run ahead = new Run(x -> x.row(0, 0, 3)).told(Check.MANOR)
+            .then(x -> x.buy(0, 0, 0), x -> x.curtain(0, 1, 0), x -> x.write(2), x -> x.ask(2, 0), x -> x.image(1))
+            .then(SeenAgain::house);
+        Run behind = ahead.told("h2,3,4;g0,1;r1,1,1,1,1,1,1,1;l5;1");
+        Check.due("7: a FAULT", behind.last(), -1000132);
+        Check.due("7: all but the tape stays", behind.portrait(), ahead.portrait());
+        Check.due("7: ACTS stay", behind.then(SeenAgain::undo).last(), 2);
     }
 
     private static void houseInPlace() {

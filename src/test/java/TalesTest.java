@@ -173,9 +173,7 @@ public final class TalesTest {
         Check.due("33: no HOUSE", x.image(1), Check.STATE);
         Check.read(x, Check.MANOR);
         x.write(1);
-        String before = Check.portrait(x);
         Check.due("33: image(0)", x.image(0), 1);
-        Check.due("33: nothing changes", Check.portrait(x).equals(before) ? 1 : 0, 1);
         x.write(2);
         Check.due("33: image(1)", x.image(1), 1);
         x.write(3);
@@ -186,37 +184,28 @@ public final class TalesTest {
         Check.due("33: kept in 0 anew", x.write(4), 4);
     }
 
+    /** What an IMAGE keeps: all but the ACTS. */
     private static void restore() {
-        SeenAgain x = Check.houseOf(Check.MANOR);
-        x.row(0, 1, 5);
-        x.buy(2, 1, 0);
-        x.curtain(0, 1, 0);
-        x.write(2);
-        x.image(0);
-        String kept = withoutActs(x);
-        x.buy(1, 1, 0);
-        x.curtain(1, 2, 0);
-        x.write(3);
-        Check.due("34: restore(0)", x.restore(0), 1);
-        Check.due("34: as it was kept", withoutActs(x).equals(kept) ? 1 : 0, 1);
-        Check.due("34: no ACT can be undone", x.undo(), Check.STATE);
-        x.back(2, 1, 0);
-        x.undo();
-        Check.due("34: an ACT since then", withoutActs(x).equals(kept) ? 1 : 0, 1);
-        x.write(7);
-        Check.read(x, "h2,1,9;r1,1,1,1,1,1,1,1;r1,1,1,1,1,1,1,1;r1,1,1,1,1,1,1,1;l1;");
-        Check.due("34: once more, of another HOUSE", x.restore(0), 1);
-        Check.due("34: as it was kept", withoutActs(x).equals(kept) ? 1 : 0, 1);
-        Check.due("34: where they were", x.met(0, 1), 0);
-        Check.due("34: none was kept", x.restore(1), Check.STATE);
-        Check.due("34: restore(2)", x.restore(2), Check.BAD);
-        Check.due("34: restore(-1)", x.restore(-1), Check.BAD);
-    }
-
-    private static String withoutActs(SeenAgain x) {
-        String all = Check.portrait(x);
-        String[] counts = all.substring(0, all.indexOf('\n')).split(" ");
-        counts[7] = "-";
-        return String.join(" ", counts) + all.substring(all.indexOf('\n'));
+        Run kept = new Run(x -> x.row(0, 1, 5)).told(Check.MANOR)
+            .then(x -> x.buy(2, 1, 0), x -> x.buy(2, 3, 7), x -> x.curtain(0, 1, 0), x -> x.curtain(1, 2, 7))
+            .then(x -> x.write(2), x -> x.write(7), x -> x.image(0));
+        Run plain = kept.then(x -> x.restore(0));
+        Check.due("34: restore(0)", plain.last(), 1);
+        Check.due("34: no ACT can be undone", plain.made().undo(), Check.STATE);
+        Check.due("34: but PURSE", plain.made().visitor(2, 0), 16);
+        Run done = kept.then(x -> x.buy(1, 1, 0), x -> x.curtain(1, 2, 0), x -> x.write(3), x -> x.back(2, 3, 7));
+        Check.due("34: as it was kept", done.then(x -> x.restore(0)).portrait(), plain.portrait());
+        Run undone = kept.times(6, (x, i) -> x.undo());
+        Check.due("34: as it was kept", undone.then(x -> x.restore(0)).portrait(), plain.portrait());
+        Run since = plain.then(x -> x.back(2, 1, 0), SeenAgain::undo);
+        Check.due("34: an ACT since then", since.portrait(), plain.portrait());
+        Run other = done.told("h2,1,9;r1,1,1,1,1,1,1,1;r1,1,1,1,1,1,1,1;r1,1,1,1,1,1,1,1;l1;")
+            .then(x -> x.buy(0, 1, 7));
+        Check.due("34: of another HOUSE", other.then(x -> x.restore(0)).portrait(), plain.portrait());
+        Run twice = plain.then(x -> x.write(0), x -> x.buy(0, 3, 7), x -> x.restore(0));
+        Check.due("34: once more", twice.portrait(), plain.portrait());
+        Check.due("34: none was kept", plain.made().restore(1), Check.STATE);
+        Check.due("34: restore(2)", plain.made().restore(2), Check.BAD);
+        Check.due("34: restore(-1)", plain.made().restore(-1), Check.BAD);
     }
 }
